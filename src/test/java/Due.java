@@ -1,0 +1,67 @@
+/** Counts answers that are not the ones that are due, and prints them. */
+final class Due {
+    interface Call {
+        long answer();
+    }
+
+    interface TextCall {
+        String answer();
+    }
+
+    static final Class<?> BAD_INDEX = IndexOutOfBoundsException.class;
+    static final Class<?> BAD_ARGUMENT = IllegalArgumentException.class;
+    static final Class<?> BAD_STATE = IllegalStateException.class;
+
+    private static int checked = 0;
+    private static int wrong = 0;
+
+    private Due() {
+    }
+
+    static void same(String what, long got, long want) {
+        same(what, Long.toString(got), Long.toString(want));
+    }
+
+    static void same(String what, boolean got, boolean want) {
+        same(what, Boolean.toString(got), Boolean.toString(want));
+    }
+
+    static void same(String what, String got, String want) {
+        checked++;
+        if (!want.equals(got)) {
+            wrong++;
+            System.out.println(what + " answered " + got + ", due is " + want);
+        }
+    }
+
+    /** What a call answers, or the name of the very class that it throws. */
+    static String outcome(Call call) {
+        try {
+            return Long.toString(call.answer());
+        } catch (RuntimeException e) {
+            return "throws." + e.getClass().getSimpleName();
+        }
+    }
+
+    static String outcomeOfText(TextCall call) {
+        try {
+            return call.answer();
+        } catch (RuntimeException e) {
+            return "throws." + e.getClass().getSimpleName();
+        }
+    }
+
+    /** The call throws the very class, and the digest says that nothing changed. */
+    static void refused(String what, Grainclock x, Class<?> kind, Call call) {
+        long before = x.digest();
+        same(what, outcome(call), "throws." + kind.getSimpleName());
+        same(what + " changes nothing", x.digest(), before);
+    }
+
+    static void end() {
+        System.out.println(checked + " answers, " + wrong + " not as due");
+        if (wrong != 0 || checked == 0) {
+            System.exit(1);
+        }
+    }
+}
