@@ -648,8 +648,8 @@ public final class Grainclock {
 
     private static void markIfOver(Grain upper, Grain lower) {
         if (upper.bed > lower.bed && upper.early > lower.late) {
+            // One of both is enough: where it is missing from a set, the two do not stand in it together.
             upper.clashes |= lower.bit();
-            lower.clashes |= upper.bit();
         }
     }
 

@@ -34,12 +34,12 @@ final class Due {
         }
     }
 
-    /** What a call answers, or the name of the very class that it throws. */
+    /** What a call answers, or the name of the very class that it throws, and who throws it. */
     static String outcome(Call call) {
         try {
             return Long.toString(call.answer());
         } catch (RuntimeException e) {
-            return "throws." + e.getClass().getSimpleName();
+            return thrown(e);
         }
     }
 
@@ -47,8 +47,16 @@ final class Due {
         try {
             return call.answer();
         } catch (RuntimeException e) {
-            return "throws." + e.getClass().getSimpleName();
+            return thrown(e);
         }
+    }
+
+    /** Tells a throw of the class (or of the model) from one of the machine or of its library. */
+    private static String thrown(RuntimeException e) {
+        StackTraceElement[] trace = e.getStackTrace();
+        String thrower = trace.length == 0 ? "" : trace[0].getClassName();
+        boolean isTold = thrower.equals("Grainclock") || thrower.equals("Model");
+        return (isTold ? "throws." : "the machine throws.") + e.getClass().getSimpleName();
     }
 
     /** The call throws the very class, and the digest says that nothing changed. */

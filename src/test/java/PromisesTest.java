@@ -26,6 +26,7 @@ public final class PromisesTest {
         promise13OfRun();
         promise13SpanOfRun();
         promise13SpanGrowsWithYears();
+        promise13SlipOfDaughters();
         promise14Span();
         promise15Narrowed();
         promise16OfPrint();
@@ -35,9 +36,13 @@ public final class PromisesTest {
         promise20Age();
         promise21Fewest();
         promise21FewestOfSeveral();
+        promise21FewestByBeds();
+        promise21FewestBySpans();
+        promise22Doubles();
         promise22BestSwap();
         promise22BestSwapOfSeveral();
         promise23Changed();
+        promise23ChangedWithSlip();
         promise24Wider();
         promise25IsSound();
         promise26Digest();
@@ -491,6 +496,16 @@ public final class PromisesTest {
         Due.same("13 3000 is the most of a grain", x.span(0, 0, 1), 3000);
     }
 
+    private static void promise13SlipOfDaughters() {
+        Grainclock x = new Grainclock();
+        x.pace(0, 200);
+        x.slip(9);
+        x.grain(1000, 0, 0);
+        x.run(0, 0, 0, 0);
+        // 991 and 9 of 1000: 1000 995 991 987.
+        facts("13 slip of daughters", ofRun(x, 0), 0, 0, 1000, 0, 9, 0, 2);
+    }
+
     private static void promise14Span() {
         Grainclock x = threeGrains();
         x.grain(7, 7, 1);
@@ -530,6 +545,15 @@ public final class PromisesTest {
         Due.same("15 EARLY beside in one bed", x.narrowed(3, false), 0);
         Due.same("15 LATE beside in one bed", x.narrowed(3, true), 3000);
         Due.same("15 LATE with nothing known below", x.narrowed(2, true), 1);
+        Grainclock z = halving();
+        z.grain(64, 64, 5);
+        z.pass(6);
+        z.run(0, 0, 0, 0);
+        z.grain(64, 64, 2);
+        z.pass(1);
+        z.run(1, 0, 0, 0);
+        Due.same("15 EARLY from the first grain", z.narrowed(1, false), 7);
+        Due.same("15 LATE from the second grain", z.narrowed(0, true), 1);
         Due.refused("15 grain -1", x, Due.BAD_INDEX, () -> x.narrowed(-1, true));
         Due.refused("15 grain 4", x, Due.BAD_INDEX, () -> x.narrowed(4, false));
         Grainclock y = threeGrains();
@@ -644,6 +668,8 @@ public final class PromisesTest {
         Due.same("20 LATE", x.age(0, 128, 896, true), 3);
         Due.same("20 EARLY between", x.age(1, 100, 924, false), 4);
         Due.same("20 LATE between", x.age(1, 100, 924, true), 3);
+        Due.same("20 EARLY without a slip", x.age(0, 127, 897, false), 4);
+        Due.same("20 LATE without a slip", x.age(0, 129, 895, true), 2);
         Due.same("20 EARLY of nothing", x.age(0, 0, 0, false), 0);
         Due.same("20 LATE of nothing", x.age(0, 0, 0, true), 3000);
         Due.same("20 EARLY without daughters", x.age(0, 9999, 0, false), 0);
@@ -702,6 +728,105 @@ public final class PromisesTest {
         Due.same("21 one bed does not lie on itself", x.narrowed(3, true), 6);
     }
 
+    private static void promise21FewestByBeds() {
+        Grainclock x = halving();
+        x.grain(1024, 1024, 5);
+        x.pass(5);
+        x.grain(64, 64, 2);
+        x.grain(64, 64, 5);
+        x.pass(1);
+        x.run(0, 0, 0, 0);
+        x.run(2, 0, 0, 0);
+        Due.same("21 one bed", x.fewest(), 0);
+        x.run(1, 0, 0, 0);
+        Due.same("21 the first grain lies above", x.fewest(), 1);
+        x.withdraw(2);
+        x.heat(0, 60);
+        x.run(0, 0, 0, 0);
+        // 16 and 404 of 420: 420 210 105 53 27 14.
+        Due.same("21 the first grain behind heat", x.text(0), "6-4!*");
+        Due.same("21 the first grain in quarrel alone", x.fewest(), 1);
+        Due.same("21 an empty lab", new Grainclock().fewest(), 0);
+    }
+
+    private static void promise21FewestBySpans() {
+        Grainclock x = halving();
+        x.grain(16, 0, 4);
+        x.grain(16, 0, 1);
+        x.pass(2);
+        x.slip(2);
+        x.run(0, 0, 0, 0);
+        x.slip(0);
+        x.run(1, 0, 0, 0);
+        Due.same("21 LATE of the upper one", x.text(0), "2-3");
+        Due.same("21 is free", x.fewest(), 0);
+        Grainclock z = halving();
+        z.grain(64, 0, 3);
+        z.pass(1);
+        z.grain(16, 0, 1);
+        z.pass(2);
+        z.slip(2);
+        z.run(1, 0, 0, 0);
+        z.slip(0);
+        z.run(0, 0, 0, 0);
+        Due.same("21 EARLY of the lower one", z.text(1), "2-3");
+        Due.same("21 the upper one of 3 years", z.text(0), "3-3");
+        Due.same("21 is free too", z.fewest(), 0);
+        z.pass(1);
+        z.run(0, 0, 0, 0);
+        Due.same("21 both grow", z.fewest(), 0);
+        z.slip(9);
+        z.pace(0, 3);
+        // 16 11 8 6 down to 6, and never below 2; 64 43 29 20 14 10 7, and 64 43 29 20 14 10 7 5 4.
+        Due.same("21 the lower one by a pace of 3", z.text(1), "4-3000");
+        Due.same("21 the upper one by a pace of 3", z.text(0), "8-6!");
+        Due.same("21 the upper one goes", z.fewest(), 1);
+    }
+
+    private static void promise22Doubles() {
+        Grainclock x = halving();
+        x.grain(1024, 1024, 0);
+        x.pass(3);
+        x.run(0, 0, 0, 0);
+        x.run(0, 1, 0, 0);
+        Due.same("22 both clocks meet", x.lab(5), 0);
+        x.pace(0, 3);
+        // 6 to 5, which is no double of itself.
+        Due.same("22 by another pace they do not", x.lab(5), 1);
+        x.withdraw(1);
+        Due.same("22 the first alone", x.lab(5), 0);
+        x.run(0, 1, 0, 0);
+        Due.same("22 another one", x.lab(5), 1);
+        x.pace(0, 2);
+        Due.same("22 they meet again", x.lab(5), 0);
+        x.pace(1, 3);
+        Due.same("22 by the other pace", x.lab(5), 1);
+        x.withdraw(0);
+        Due.same("22 the last alone", x.lab(5), 0);
+        x.run(0, 0, 0, 0);
+        x.run(0, 0, 0, 0);
+        Due.same("22 by pairs", x.lab(5), 2);
+        Due.same("22 runs of one label are not swapped", x.bestSwap(true), -1);
+        Grainclock y = halving();
+        y.grain(1024, 1024, 0);
+        y.pass(3);
+        y.run(0, 1, 0, 0);
+        y.run(0, 0, 0, 0);
+        y.run(0, 0, 0, 0);
+        y.pace(0, 3);
+        // 3 to 3, and 6 to 5 twice: these two do not meet each other either.
+        Due.same("22 three pairs", y.lab(5), 3);
+        y.withdraw(0);
+        Due.same("22 of two alike", y.lab(5), 1);
+        y.pace(0, 2);
+        y.run(0, 0, 0, 0);
+        y.pace(0, 3);
+        Due.same("22 of three alike", y.lab(5), 3);
+        y.withdraw(2);
+        y.withdraw(3);
+        Due.same("22 of one that stands first", y.lab(5), 0);
+    }
+
     private static void promise22BestSwap() {
         Grainclock x = threeGrains();
         Due.same("22 none, first", x.bestSwap(true), -1);
@@ -720,6 +845,17 @@ public final class PromisesTest {
         Due.same("22 doubles without it", x.lab(5), 1);
         Due.same("22 first of what stands", x.bestSwap(true), 3);
         Due.same("22 second of what stands", x.bestSwap(false), 4);
+        Grainclock y = threeGrains();
+        y.swap(0, 4);
+        y.withdraw(0);
+        // To swap run 0 again would mend it, but it does not stand.
+        Due.same("22 first, without run 0", y.bestSwap(true), 1);
+        Due.same("22 second, without run 0", y.bestSwap(false), 5);
+        Grainclock z = threeGrains();
+        z.swap(1, 4);
+        z.withdraw(4);
+        Due.same("22 first, without run 4", z.bestSwap(true), 0);
+        Due.same("22 second, without run 4", z.bestSwap(false), 5);
     }
 
     private static void promise22BestSwapOfSeveral() {
@@ -773,6 +909,27 @@ public final class PromisesTest {
         Due.refused("23 pace 201", x, Due.BAD_ARGUMENT, () -> x.changed(1, 201));
         Due.refused("23 pace 0", x, Due.BAD_ARGUMENT, () -> x.changed(1, 0));
         Due.same("23 pace 200", x.changed(0, 200), 2);
+    }
+
+    private static void promise23ChangedWithSlip() {
+        Grainclock x = halving();
+        x.grain(40, 40, 0);
+        x.pass(1);
+        x.slip(9);
+        x.run(0, 0, 0, 0);
+        // 40 27 is below 29, though not below 20.
+        Due.same("23 EARLY with its slip", x.changed(0, 3), 0);
+        x.pace(0, 3);
+        // 1 to 3; by a pace of 4: 40 30 23 18 14 11 9, so 2 to 5.
+        Due.same("23 EARLY between", x.changed(0, 4), 0);
+        x.slip(5);
+        x.pass(1);
+        x.run(0, 1, 0, 0);
+        facts("23 counted", ofRun(x, 1), 0, 1, 10, 30, 5, 2, 3);
+        x.pace(1, 3);
+        // 40 27 18 12 is 3; by a pace of 2 40 20 10 5 is 3, though without the slip it is 2.
+        facts("23 by a pace of 3", ofRun(x, 1), 0, 1, 10, 30, 5, 3, 5);
+        Due.same("23 LATE with its slip", x.changed(1, 2), 0);
     }
 
     private static void promise24Wider() {
