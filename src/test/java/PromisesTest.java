@@ -1,8 +1,5 @@
 /** Each promise of the document by answers that were worked out by hand. */
 public final class PromisesTest {
-    private static final int LEAST = Integer.MIN_VALUE;
-    private static final int MOST = Integer.MAX_VALUE;
-
     private PromisesTest() {
     }
 
@@ -49,77 +46,14 @@ public final class PromisesTest {
         Due.end();
     }
 
-    /** Both clocks at pace 2 and no slip, so that 2^n mothers date to a year. */
-    private static Grainclock halving() {
-        Grainclock x = new Grainclock();
-        x.pace(0, 2);
-        x.pace(1, 2);
-        x.slip(0);
-        return x;
-    }
-
-    /** Grains of 6, 3 and 1 years in the beds 0, 2 and 4, each with a run of each clock: 0 and 1, 2 and 3, 4 and 5. */
-    private static Grainclock threeGrains() {
-        Grainclock x = halving();
-        x.grain(1024, 1024, 0);
-        x.pass(3);
-        x.grain(1024, 512, 2);
-        x.pass(2);
-        x.grain(64, 64, 4);
-        x.pass(1);
-        for (int grain = 0; grain < 3; grain++) {
-            x.run(grain, 0, 0, 0);
-            x.run(grain, 1, 0, 0);
-        }
-        return x;
-    }
-
-    private static void facts(String what, int[] got, int... want) {
-        for (int k = 0; k < want.length; k++) {
-            Due.same(what + " " + k, got[k], want[k]);
-        }
-    }
-
-    private static int[] ofGrain(Grainclock x, int grain) {
-        int[] got = new int[10];
-        for (int what = 0; what < 10; what++) {
-            got[what] = x.ofGrain(grain, what);
-        }
-        return got;
-    }
-
-    private static int[] ofRun(Grainclock x, int run) {
-        int[] got = new int[8];
-        for (int what = 0; what < 8; what++) {
-            got[what] = x.ofRun(run, what);
-        }
-        return got;
-    }
-
-    private static int[] ofPrint(Grainclock x, int print) {
-        int[] got = new int[5];
-        for (int what = 0; what < 5; what++) {
-            got[what] = x.ofPrint(print, what);
-        }
-        return got;
-    }
-
-    private static int[] lab(Grainclock x) {
-        int[] got = new int[11];
-        for (int what = 0; what < 11; what++) {
-            got[what] = x.lab(what);
-        }
-        return got;
-    }
-
     private static void promise1NewObject() {
         Grainclock x = new Grainclock();
-        facts("1 lab", lab(x), 0, 0, 0, 0, 2, 0, 0, 0, 20, 50, 0);
+        Due.facts("1 lab", Labs.lab(x), 0, 0, 0, 0, 2, 0, 0, 0, 20, 50, 0);
         Due.same("1 fewest", x.fewest(), 0);
         Due.same("1 bestSwap first", x.bestSwap(true), -1);
         Due.same("1 bestSwap second", x.bestSwap(false), -1);
         Due.same("1 isSound", x.isSound(), true);
-        Due.same("1 digest", x.digest(), digestOf(x));
+        Due.same("1 digest", x.digest(), Labs.digestOf(x));
         Due.refused("1 ofGrain(0, 0)", x, Due.BAD_INDEX, () -> x.ofGrain(0, 0));
         Due.refused("1 ofRun(0, 0)", x, Due.BAD_INDEX, () -> x.ofRun(0, 0));
         Due.refused("1 ofPrint(0, 0)", x, Due.BAD_INDEX, () -> x.ofPrint(0, 0));
@@ -133,11 +67,11 @@ public final class PromisesTest {
         Due.same("2 first grain", x.grain(0, 9999, 0), 0);
         x.pass(10);
         Due.same("2 second grain", x.grain(9999, 0, 5), 1);
-        facts("2 ofGrain(1)", ofGrain(x, 1), 9999, 0, 0, 0, 0, 0, 0, 5, 0, 0);
+        Due.facts("2 ofGrain(1)", Labs.ofGrain(x, 1), 9999, 0, 0, 0, 0, 0, 0, 5, 0, 0);
         for (int grain = 2; grain < 8; grain++) {
             Due.same("2 grain " + grain, x.grain(grain, 10 * grain, 3), grain);
         }
-        facts("2 ofGrain(7)", ofGrain(x, 7), 7, 0, 0, 70, 0, 0, 0, 3, 0, 0);
+        Due.facts("2 ofGrain(7)", Labs.ofGrain(x, 7), 7, 0, 0, 70, 0, 0, 0, 3, 0, 0);
         Due.same("2 eight grains", x.lab(1), 8);
         Due.refused("2 ninth grain", x, Due.BAD_STATE, () -> x.grain(0, 0, 0));
         Due.refused("2 ninth grain with a bad bed", x, Due.BAD_ARGUMENT, () -> x.grain(0, 0, 6));
@@ -151,8 +85,8 @@ public final class PromisesTest {
         Due.refused("2 second above", x, Due.BAD_ARGUMENT, () -> x.grain(0, 10000, 0));
         Due.refused("2 bed below", x, Due.BAD_ARGUMENT, () -> x.grain(0, 0, -1));
         Due.refused("2 bed above", x, Due.BAD_ARGUMENT, () -> x.grain(0, 0, 6));
-        Due.refused("2 far below", x, Due.BAD_ARGUMENT, () -> x.grain(LEAST, LEAST, LEAST));
-        Due.refused("2 far above", x, Due.BAD_ARGUMENT, () -> x.grain(MOST, MOST, MOST));
+        Due.refused("2 far below", x, Due.BAD_ARGUMENT, () -> x.grain(Due.LEAST, Due.LEAST, Due.LEAST));
+        Due.refused("2 far above", x, Due.BAD_ARGUMENT, () -> x.grain(Due.MOST, Due.MOST, Due.MOST));
         Due.same("2 number after refusals", x.grain(1, 1, 1), 0);
     }
 
@@ -160,15 +94,15 @@ public final class PromisesTest {
         Grainclock x = new Grainclock();
         x.grain(100, 100, 0);
         Due.same("3 pass(1)", x.pass(1), 1);
-        facts("3 behind 1", ofGrain(x, 0), 95, 5, 0, 98, 2, 0, 1);
+        Due.facts("3 behind 1", Labs.ofGrain(x, 0), 95, 5, 0, 98, 2, 0, 1);
         Due.same("3 pass(1) again", x.pass(1), 2);
-        facts("3 behind 2", ofGrain(x, 0), 91, 9, 0, 97, 3, 0, 2);
+        Due.facts("3 behind 2", Labs.ofGrain(x, 0), 91, 9, 0, 97, 3, 0, 2);
         x.grain(40, 49, 0);
         Due.same("3 pass(2)", x.pass(2), 4);
-        facts("3 behind 4", ofGrain(x, 0), 83, 17, 0, 95, 5, 0, 4);
-        facts("3 younger grain", ofGrain(x, 1), 37, 3, 0, 49, 0, 0, 2);
+        Due.facts("3 behind 4", Labs.ofGrain(x, 0), 83, 17, 0, 95, 5, 0, 4);
+        Due.facts("3 younger grain", Labs.ofGrain(x, 1), 37, 3, 0, 49, 0, 0, 2);
         Due.same("3 pass(300)", x.pass(300), 304);
-        facts("3 none turns below the pace", ofGrain(x, 0), 19, 81, 0, 49, 51, 0, 304);
+        Due.facts("3 none turns below the pace", Labs.ofGrain(x, 0), 19, 81, 0, 49, 51, 0, 304);
     }
 
     private static void promise3PassRefuses() {
@@ -176,8 +110,8 @@ public final class PromisesTest {
         Due.refused("3 pass(0)", x, Due.BAD_ARGUMENT, () -> x.pass(0));
         Due.refused("3 pass(-1)", x, Due.BAD_ARGUMENT, () -> x.pass(-1));
         Due.refused("3 pass(301)", x, Due.BAD_ARGUMENT, () -> x.pass(301));
-        Due.refused("3 pass(least)", x, Due.BAD_ARGUMENT, () -> x.pass(LEAST));
-        Due.refused("3 pass(most)", x, Due.BAD_ARGUMENT, () -> x.pass(MOST));
+        Due.refused("3 pass(least)", x, Due.BAD_ARGUMENT, () -> x.pass(Due.LEAST));
+        Due.refused("3 pass(most)", x, Due.BAD_ARGUMENT, () -> x.pass(Due.MOST));
         x.grain(9000, 9000, 0);
         for (int k = 1; k <= 9; k++) {
             Due.same("3 pass(300) " + k, x.pass(300), 300 * k);
@@ -197,14 +131,14 @@ public final class PromisesTest {
         x.grain(100, 100, 0);
         x.pass(1);
         Due.same("4 half", x.heat(0, 50), 26);
-        facts("4 ofGrain", ofGrain(x, 0), 50, 25, 25, 98, 1, 1, 1, 0, 1);
+        Due.facts("4 ofGrain", Labs.ofGrain(x, 0), 50, 25, 25, 98, 1, 1, 1, 0, 1);
         Due.same("4 each is rounded down", x.heat(0, 50), 12);
-        facts("4 ofGrain again", ofGrain(x, 0), 50, 13, 37, 98, 1, 1, 1, 0, 1);
+        Due.facts("4 ofGrain again", Labs.ofGrain(x, 0), 50, 13, 37, 98, 1, 1, 1, 0, 1);
         Due.same("4 all", x.heat(0, 100), 14);
-        facts("4 ofGrain at last", ofGrain(x, 0), 50, 0, 50, 98, 0, 2, 1, 0, 1);
+        Due.facts("4 ofGrain at last", Labs.ofGrain(x, 0), 50, 0, 50, 98, 0, 2, 1, 0, 1);
         Due.same("4 the other grain is not touched", x.ofGrain(1, 8), 0);
         Due.same("4 none", x.heat(1, 0), 0);
-        facts("4 touched by none", ofGrain(x, 1), 50, 50, 0, 98, 2, 0, 1, 0, 1);
+        Due.facts("4 touched by none", Labs.ofGrain(x, 1), 50, 50, 0, 98, 2, 0, 1, 0, 1);
         Due.refused("4 no such grain", x, Due.BAD_INDEX, () -> x.heat(2, 10));
         Due.refused("4 grain -1", x, Due.BAD_INDEX, () -> x.heat(-1, 10));
         Due.refused("4 no such grain or share", x, Due.BAD_INDEX, () -> x.heat(2, 101));
@@ -223,14 +157,14 @@ public final class PromisesTest {
         x.grain(10, 10, 0);
         x.pass(1);
         Due.same("5 half", x.wash(0, 50), 75);
-        facts("5 ofGrain", ofGrain(x, 0), 50, 99, 50, 25, 1, 25, 1, 0, 1);
+        Due.facts("5 ofGrain", Labs.ofGrain(x, 0), 50, 99, 50, 25, 1, 25, 1, 0, 1);
         Due.same("5 each is rounded down", x.wash(0, 3), 1);
-        facts("5 ofGrain again", ofGrain(x, 0), 49, 99, 51, 25, 1, 25, 1, 0, 1);
+        Due.facts("5 ofGrain again", Labs.ofGrain(x, 0), 49, 99, 51, 25, 1, 25, 1, 0, 1);
         Due.same("5 all", x.wash(0, 100), 74);
-        facts("5 ofGrain at last", ofGrain(x, 0), 0, 99, 100, 0, 1, 50, 1, 0, 1);
+        Due.facts("5 ofGrain at last", Labs.ofGrain(x, 0), 0, 99, 100, 0, 1, 50, 1, 0, 1);
         Due.same("5 the other grain is not touched", x.ofGrain(1, 8), 0);
         Due.same("5 none", x.wash(1, 0), 0);
-        facts("5 touched by none", ofGrain(x, 1), 5, 5, 0, 10, 0, 0, 1, 0, 1);
+        Due.facts("5 touched by none", Labs.ofGrain(x, 1), 5, 5, 0, 10, 0, 0, 1, 0, 1);
         Due.refused("5 no such grain", x, Due.BAD_INDEX, () -> x.wash(2, 10));
         Due.refused("5 grain -1", x, Due.BAD_INDEX, () -> x.wash(-1, 10));
         Due.refused("5 no such grain or share", x, Due.BAD_INDEX, () -> x.wash(2, -1));
@@ -244,9 +178,9 @@ public final class PromisesTest {
         x.pass(1);
         Due.same("6 pace(0, 10)", x.pace(0, 10), 20);
         Due.same("6 pace(1, 200)", x.pace(1, 200), 50);
-        facts("6 what turned stays", ofGrain(x, 0), 95, 5, 0, 98, 2, 0);
+        Due.facts("6 what turned stays", Labs.ofGrain(x, 0), 95, 5, 0, 98, 2, 0);
         x.pass(1);
-        facts("6 turns by the new pace", ofGrain(x, 0), 86, 14, 0, 98, 2, 0);
+        Due.facts("6 turns by the new pace", Labs.ofGrain(x, 0), 86, 14, 0, 98, 2, 0);
         Due.same("6 pace(1, 2)", x.pace(1, 2), 200);
         Due.same("6 pace(0, 10) again", x.pace(0, 10), 10);
         Due.same("6 pace of the clock 0", x.lab(8), 10);
@@ -262,7 +196,7 @@ public final class PromisesTest {
     }
 
     private static void promise6PaceOfRuns() {
-        Grainclock x = halving();
+        Grainclock x = Labs.halving();
         x.grain(1024, 1024, 0);
         x.pass(3);
         x.run(0, 0, 0, 0);
@@ -294,7 +228,7 @@ public final class PromisesTest {
         Due.same("7 SLIP of the machine", x.lab(4), 0);
         Due.refused("7 slip(-1)", x, Due.BAD_ARGUMENT, () -> x.slip(-1));
         Due.refused("7 slip(10)", x, Due.BAD_ARGUMENT, () -> x.slip(10));
-        Due.refused("7 slip(least)", x, Due.BAD_ARGUMENT, () -> x.slip(LEAST));
+        Due.refused("7 slip(least)", x, Due.BAD_ARGUMENT, () -> x.slip(Due.LEAST));
         Due.same("7 slip(5)", x.slip(5), 0);
     }
 
@@ -304,20 +238,20 @@ public final class PromisesTest {
         x.grain(1, 0, 0);
         x.pass(1);
         Due.same("8 run 0", x.run(0, 0, 2, -2), 0);
-        facts("8 ofRun(0)", ofRun(x, 0), 0, 0, 97, 3, 2);
+        Due.facts("8 ofRun(0)", Labs.ofRun(x, 0), 0, 0, 97, 3, 2);
         Due.same("8 run 1", x.run(0, 1, -1, 1), 1);
-        facts("8 ofRun(1)", ofRun(x, 1), 0, 1, 48, 2, 2);
+        Due.facts("8 ofRun(1)", Labs.ofRun(x, 1), 0, 1, 48, 2, 2);
         Due.same("8 run 2", x.run(1, 0, -2, -2), 2);
-        facts("8 never below 0", ofRun(x, 2), 1, 0, 0, 0, 2);
+        Due.facts("8 never below 0", Labs.ofRun(x, 2), 1, 0, 0, 0, 2);
         Due.same("8 run 3", x.run(1, 1, 2, 2), 3);
-        facts("8 ofRun(3)", ofRun(x, 3), 1, 1, 2, 2, 2);
+        Due.facts("8 ofRun(3)", Labs.ofRun(x, 3), 1, 1, 2, 2, 2);
         Due.same("8 a run stands", x.ofRun(3, 7), 1);
-        facts("8 the grain is as it was", ofGrain(x, 0), 95, 5, 0, 49, 1, 0, 1, 0, 0, 2);
+        Due.facts("8 the grain is as it was", Labs.ofGrain(x, 0), 95, 5, 0, 49, 1, 0, 1, 0, 0, 2);
         x.heat(0, 100);
         x.run(0, 0, 0, 0);
-        facts("8 behind heat", ofRun(x, 4), 0, 0, 95, 0, 2);
+        Due.facts("8 behind heat", Labs.ofRun(x, 4), 0, 0, 95, 0, 2);
         x.pass(1);
-        facts("8 what was counted stays", ofRun(x, 0), 0, 0, 97, 3, 2);
+        Due.facts("8 what was counted stays", Labs.ofRun(x, 0), 0, 0, 97, 3, 2);
     }
 
     private static void promise8RunRefuses() {
@@ -332,7 +266,7 @@ public final class PromisesTest {
         Due.refused("8 mothers above", x, Due.BAD_ARGUMENT, () -> x.run(0, 0, 3, 0));
         Due.refused("8 daughters below", x, Due.BAD_ARGUMENT, () -> x.run(0, 0, 0, -3));
         Due.refused("8 daughters above", x, Due.BAD_ARGUMENT, () -> x.run(0, 0, 0, 3));
-        Due.refused("8 least", x, Due.BAD_ARGUMENT, () -> x.run(0, 0, LEAST, LEAST));
+        Due.refused("8 least", x, Due.BAD_ARGUMENT, () -> x.run(0, 0, Due.LEAST, Due.LEAST));
         Due.refused("8 no clock and a bad error", x, Due.BAD_INDEX, () -> x.run(0, 2, 3, 3));
         x.slip(0);
         Due.refused("8 beyond a slip of 0", x, Due.BAD_ARGUMENT, () -> x.run(0, 0, 1, 0));
@@ -347,7 +281,7 @@ public final class PromisesTest {
     }
 
     private static void promise9Withdraw() {
-        Grainclock x = threeGrains();
+        Grainclock x = Labs.threeGrains();
         x.print(0, -1);
         x.print(1, 0);
         x.print(2, 1);
@@ -369,11 +303,11 @@ public final class PromisesTest {
     }
 
     private static void promise10Swap() {
-        Grainclock x = threeGrains();
+        Grainclock x = Labs.threeGrains();
         Due.same("10 swap(0, 4)", x.swap(0, 4), 2);
         Due.same("10 LABEL of 0", x.ofRun(0, 0), 2);
         Due.same("10 LABEL of 4", x.ofRun(4, 0), 0);
-        facts("10 all else stays", ofRun(x, 0), 2, 0, 16, 1008, 0, 6, 6, 1);
+        Due.facts("10 all else stays", Labs.ofRun(x, 0), 2, 0, 16, 1008, 0, 6, 6, 1);
         Due.same("10 swap(5, 1)", x.swap(5, 1), 0);
         Due.same("10 swap(2, 3) of one label", x.swap(2, 3), 0);
         Due.same("10 swap(2, 5)", x.swap(2, 5), 2);
@@ -390,11 +324,11 @@ public final class PromisesTest {
     }
 
     private static void promise11Print() {
-        Grainclock x = threeGrains();
+        Grainclock x = Labs.threeGrains();
         Due.refused("11 on a print that is not there", x, Due.BAD_INDEX, () -> x.print(0, 0));
         Due.same("11 print 0", x.print(0, -1), 0);
         Due.same("11 print 1", x.print(3, 0), 1);
-        facts("11 ofPrint(1)", ofPrint(x, 1), 3, 2, 0, 1, 1);
+        Due.facts("11 ofPrint(1)", Labs.ofPrint(x, 1), 3, 2, 0, 1, 1);
         Due.refused("11 run -1", x, Due.BAD_INDEX, () -> x.print(-1, -1));
         Due.refused("11 run 6", x, Due.BAD_INDEX, () -> x.print(6, -1));
         Due.refused("11 on -2", x, Due.BAD_INDEX, () -> x.print(0, -2));
@@ -418,13 +352,13 @@ public final class PromisesTest {
     }
 
     private static void promise12OfGrain() {
-        Grainclock x = threeGrains();
-        facts("12 ofGrain(0)", ofGrain(x, 0), 16, 1008, 0, 16, 1008, 0, 6, 0, 0, 2);
-        facts("12 ofGrain(1)", ofGrain(x, 1), 128, 896, 0, 64, 448, 0, 3, 2, 0, 2);
-        facts("12 ofGrain(2)", ofGrain(x, 2), 32, 32, 0, 32, 32, 0, 1, 4, 0, 2);
+        Grainclock x = Labs.threeGrains();
+        Due.facts("12 ofGrain(0)", Labs.ofGrain(x, 0), 16, 1008, 0, 16, 1008, 0, 6, 0, 0, 2);
+        Due.facts("12 ofGrain(1)", Labs.ofGrain(x, 1), 128, 896, 0, 64, 448, 0, 3, 2, 0, 2);
+        Due.facts("12 ofGrain(2)", Labs.ofGrain(x, 2), 32, 32, 0, 32, 32, 0, 1, 4, 0, 2);
         x.heat(1, 50);
         x.wash(1, 25);
-        facts("12 behind both", ofGrain(x, 1), 96, 448, 480, 48, 224, 240, 3, 2, 1, 2);
+        Due.facts("12 behind both", Labs.ofGrain(x, 1), 96, 448, 480, 48, 224, 240, 3, 2, 1, 2);
         x.run(1, 0, 0, 0);
         Due.same("12 three runs", x.ofGrain(1, 9), 3);
         x.withdraw(2);
@@ -440,11 +374,11 @@ public final class PromisesTest {
     }
 
     private static void promise13OfRun() {
-        Grainclock x = threeGrains();
-        facts("13 ofRun(0)", ofRun(x, 0), 0, 0, 16, 1008, 0, 6, 6, 1);
-        facts("13 ofRun(3)", ofRun(x, 3), 1, 1, 64, 448, 0, 3, 3, 1);
+        Grainclock x = Labs.threeGrains();
+        Due.facts("13 ofRun(0)", Labs.ofRun(x, 0), 0, 0, 16, 1008, 0, 6, 6, 1);
+        Due.facts("13 ofRun(3)", Labs.ofRun(x, 3), 1, 1, 64, 448, 0, 3, 3, 1);
         x.withdraw(3);
-        facts("13 withdrawn", ofRun(x, 3), 1, 1, 64, 448, 0, 3, 3, 0);
+        Due.facts("13 withdrawn", Labs.ofRun(x, 3), 1, 1, 64, 448, 0, 3, 3, 0);
         Due.refused("13 run -1", x, Due.BAD_INDEX, () -> x.ofRun(-1, 0));
         Due.refused("13 run 6", x, Due.BAD_INDEX, () -> x.ofRun(6, 0));
         Due.refused("13 run 6, and a bad question", x, Due.BAD_INDEX, () -> x.ofRun(6, 8));
@@ -453,43 +387,43 @@ public final class PromisesTest {
     }
 
     private static void promise13SpanOfRun() {
-        Grainclock x = halving();
+        Grainclock x = Labs.halving();
         x.grain(16, 5, 0);
         x.pass(2);
         // 4 mothers and 12 daughters; with a slip of 2: 16 8 4 down to 6, 16 8 4 2 1 down to 2.
         x.slip(2);
         x.run(0, 0, 0, 0);
-        facts("13 slip 2", ofRun(x, 0), 0, 0, 4, 12, 2, 2, 3);
+        Due.facts("13 slip 2", Labs.ofRun(x, 0), 0, 0, 4, 12, 2, 2, 3);
         // With a slip of 5: 16 8 down to 9; no mothers need be left.
         x.slip(5);
         x.run(0, 0, 0, 0);
-        facts("13 slip 5", ofRun(x, 1), 0, 0, 4, 12, 5, 1, 3000);
+        Due.facts("13 slip 5", Labs.ofRun(x, 1), 0, 0, 4, 12, 5, 1, 3000);
         // With errors: 6 and 10, and a slip of 3: 16 8 down to 9, 16 8 4 2 down to 3.
         x.slip(3);
         x.run(0, 0, 2, -2);
-        facts("13 slip 3", ofRun(x, 2), 0, 0, 6, 10, 3, 1, 2);
+        Due.facts("13 slip 3", Labs.ofRun(x, 2), 0, 0, 6, 10, 3, 1, 2);
         // 2 mothers and 3 daughters: 5 3 2 1.
         x.slip(0);
         x.run(0, 1, 0, 0);
-        facts("13 slip 0", ofRun(x, 3), 0, 1, 2, 3, 0, 2, 2);
+        Due.facts("13 slip 0", Labs.ofRun(x, 3), 0, 1, 2, 3, 0, 2, 2);
         x.wash(0, 100);
         x.run(0, 1, 0, 0);
-        facts("13 it never comes", ofRun(x, 4), 0, 1, 0, 3, 0, 3000, 3000);
+        Due.facts("13 it never comes", Labs.ofRun(x, 4), 0, 1, 0, 3, 0, 3000, 3000);
     }
 
     private static void promise13SpanGrowsWithYears() {
-        Grainclock x = halving();
+        Grainclock x = Labs.halving();
         x.grain(5, 1024, 0);
         x.pass(3);
         x.wash(0, 10);
         // 1 and 4, and 116 and 896, of 1012: 1012 506 253 127 64.
         x.run(0, 0, 0, 0);
         x.run(0, 1, 0, 0);
-        facts("13 at first", ofRun(x, 0), 0, 0, 1, 4, 0, 3, 3000, 1);
-        facts("13 at first too", ofRun(x, 1), 0, 1, 116, 896, 0, 4, 3, 1);
+        Due.facts("13 at first", Labs.ofRun(x, 0), 0, 0, 1, 4, 0, 3, 3000, 1);
+        Due.facts("13 at first too", Labs.ofRun(x, 1), 0, 1, 116, 896, 0, 4, 3, 1);
         x.pass(10);
-        facts("13 ten years more", ofRun(x, 0), 0, 0, 1, 4, 0, 13, 3010, 1);
-        facts("13 ten years more too", ofRun(x, 1), 0, 1, 116, 896, 0, 14, 13, 1);
+        Due.facts("13 ten years more", Labs.ofRun(x, 0), 0, 0, 1, 4, 0, 13, 3010, 1);
+        Due.facts("13 ten years more too", Labs.ofRun(x, 1), 0, 1, 116, 896, 0, 14, 13, 1);
         x.withdraw(1);
         x.pass(1);
         Due.same("13 also of a withdrawn run", x.ofRun(1, 5), 15);
@@ -503,23 +437,23 @@ public final class PromisesTest {
         x.grain(1000, 0, 0);
         x.run(0, 0, 0, 0);
         // 991 and 9 of 1000: 1000 995 991 987.
-        facts("13 slip of daughters", ofRun(x, 0), 0, 0, 1000, 0, 9, 0, 2);
+        Due.facts("13 slip of daughters", Labs.ofRun(x, 0), 0, 0, 1000, 0, 9, 0, 2);
     }
 
     private static void promise14Span() {
-        Grainclock x = threeGrains();
+        Grainclock x = Labs.threeGrains();
         x.grain(7, 7, 1);
-        facts("14 without a run", new int[] {x.span(3, -1, 0), x.span(3, 0, 1), x.span(3, 1, 2)}, 0, 3000, 0);
+        Due.facts("14 without a run", new int[] {x.span(3, -1, 0), x.span(3, 0, 1), x.span(3, 1, 2)}, 0, 3000, 0);
         x.swap(0, 4);
-        facts("14 by the clock 0", new int[] {x.span(0, 0, 0), x.span(0, 0, 1), x.span(0, 0, 2)}, 1, 1, 0);
-        facts("14 by the clock 1", new int[] {x.span(0, 1, 0), x.span(0, 1, 1), x.span(0, 1, 2)}, 6, 6, 0);
-        facts("14 by both", new int[] {x.span(0, -1, 0), x.span(0, -1, 1), x.span(0, -1, 2)}, 6, 1, 1);
+        Due.facts("14 by the clock 0", new int[] {x.span(0, 0, 0), x.span(0, 0, 1), x.span(0, 0, 2)}, 1, 1, 0);
+        Due.facts("14 by the clock 1", new int[] {x.span(0, 1, 0), x.span(0, 1, 1), x.span(0, 1, 2)}, 6, 6, 0);
+        Due.facts("14 by both", new int[] {x.span(0, -1, 0), x.span(0, -1, 1), x.span(0, -1, 2)}, 6, 1, 1);
         x.withdraw(4);
-        facts("14 without it", new int[] {x.span(0, 0, 0), x.span(0, 0, 1), x.span(0, -1, 2)}, 0, 3000, 0);
+        Due.facts("14 without it", new int[] {x.span(0, 0, 0), x.span(0, 0, 1), x.span(0, -1, 2)}, 0, 3000, 0);
         x.heat(1, 50);
         x.run(1, 0, 0, 0);
         // 128 and 448 of 576: 576 288 144 72, so EARLY is 3 and LATE 2.
-        facts("14 of two runs", new int[] {x.span(1, 0, 0), x.span(1, 0, 1), x.span(1, 0, 2)}, 3, 2, 1);
+        Due.facts("14 of two runs", new int[] {x.span(1, 0, 0), x.span(1, 0, 1), x.span(1, 0, 2)}, 3, 2, 1);
         Due.refused("14 grain -1", x, Due.BAD_INDEX, () -> x.span(-1, 0, 0));
         Due.refused("14 grain 4", x, Due.BAD_INDEX, () -> x.span(4, 0, 0));
         Due.refused("14 clock -2", x, Due.BAD_INDEX, () -> x.span(0, -2, 0));
@@ -530,8 +464,8 @@ public final class PromisesTest {
     }
 
     private static void promise15Narrowed() {
-        Grainclock x = threeGrains();
-        facts("15 as they are", new int[] {x.narrowed(0, false), x.narrowed(0, true), x.narrowed(1, false),
+        Grainclock x = Labs.threeGrains();
+        Due.facts("15 as they are", new int[] {x.narrowed(0, false), x.narrowed(0, true), x.narrowed(1, false),
             x.narrowed(1, true), x.narrowed(2, false), x.narrowed(2, true)}, 6, 6, 3, 3, 1, 1);
         x.withdraw(2);
         x.withdraw(3);
@@ -545,7 +479,7 @@ public final class PromisesTest {
         Due.same("15 EARLY beside in one bed", x.narrowed(3, false), 0);
         Due.same("15 LATE beside in one bed", x.narrowed(3, true), 3000);
         Due.same("15 LATE with nothing known below", x.narrowed(2, true), 1);
-        Grainclock z = halving();
+        Grainclock z = Labs.halving();
         z.grain(64, 64, 5);
         z.pass(6);
         z.run(0, 0, 0, 0);
@@ -556,37 +490,37 @@ public final class PromisesTest {
         Due.same("15 LATE from the second grain", z.narrowed(0, true), 1);
         Due.refused("15 grain -1", x, Due.BAD_INDEX, () -> x.narrowed(-1, true));
         Due.refused("15 grain 4", x, Due.BAD_INDEX, () -> x.narrowed(4, false));
-        Grainclock y = threeGrains();
+        Grainclock y = Labs.threeGrains();
         y.swap(0, 4);
         // The lowest is now 6 to 1 and the topmost too.
-        facts("15 with quarrels", new int[] {y.narrowed(0, false), y.narrowed(0, true), y.narrowed(1, false),
+        Due.facts("15 with quarrels", new int[] {y.narrowed(0, false), y.narrowed(0, true), y.narrowed(1, false),
             y.narrowed(1, true), y.narrowed(2, false), y.narrowed(2, true)}, 6, 1, 6, 1, 6, 1);
     }
 
     private static void promise16OfPrint() {
-        Grainclock x = threeGrains();
+        Grainclock x = Labs.threeGrains();
         x.pace(1, 30);
         x.print(2, -1);
         x.print(1, 0);
         x.print(5, 1);
         x.print(5, 0);
-        facts("16 ofPrint(0)", ofPrint(x, 0), 2, 2, -1, 1, 0);
-        facts("16 ofPrint(1)", ofPrint(x, 1), 1, 30, 0, 1, 1);
-        facts("16 ofPrint(2)", ofPrint(x, 2), 5, 30, 1, 1, 2);
-        facts("16 ofPrint(3)", ofPrint(x, 3), 5, 30, 0, 1, 1);
+        Due.facts("16 ofPrint(0)", Labs.ofPrint(x, 0), 2, 2, -1, 1, 0);
+        Due.facts("16 ofPrint(1)", Labs.ofPrint(x, 1), 1, 30, 0, 1, 1);
+        Due.facts("16 ofPrint(2)", Labs.ofPrint(x, 2), 5, 30, 1, 1, 2);
+        Due.facts("16 ofPrint(3)", Labs.ofPrint(x, 3), 5, 30, 0, 1, 1);
         x.swap(5, 0);
-        facts("16 with any label", ofPrint(x, 2), 5, 30, 1, 1, 2);
+        Due.facts("16 with any label", Labs.ofPrint(x, 2), 5, 30, 1, 1, 2);
         x.pace(1, 31);
-        facts("16 another pace", ofPrint(x, 2), 5, 30, 1, 0, 2);
-        facts("16 of the other clock", ofPrint(x, 0), 2, 2, -1, 1, 0);
+        Due.facts("16 another pace", Labs.ofPrint(x, 2), 5, 30, 1, 0, 2);
+        Due.facts("16 of the other clock", Labs.ofPrint(x, 0), 2, 2, -1, 1, 0);
         x.pace(1, 30);
-        facts("16 the same again", ofPrint(x, 2), 5, 30, 1, 1, 2);
+        Due.facts("16 the same again", Labs.ofPrint(x, 2), 5, 30, 1, 1, 2);
         x.withdraw(1);
-        facts("16 withdrawn", ofPrint(x, 1), 1, 30, 0, 0, 1);
-        facts("16 on what fell", ofPrint(x, 2), 5, 30, 1, 0, 2);
-        facts("16 beside what fell", ofPrint(x, 3), 5, 30, 0, 1, 1);
+        Due.facts("16 withdrawn", Labs.ofPrint(x, 1), 1, 30, 0, 0, 1);
+        Due.facts("16 on what fell", Labs.ofPrint(x, 2), 5, 30, 1, 0, 2);
+        Due.facts("16 beside what fell", Labs.ofPrint(x, 3), 5, 30, 0, 1, 1);
         x.pace(0, 3);
-        facts("16 by the chain", ofPrint(x, 3), 5, 30, 0, 0, 1);
+        Due.facts("16 by the chain", Labs.ofPrint(x, 3), 5, 30, 0, 0, 1);
         Due.refused("16 print -1", x, Due.BAD_INDEX, () -> x.ofPrint(-1, 0));
         Due.refused("16 print 4", x, Due.BAD_INDEX, () -> x.ofPrint(4, 0));
         Due.refused("16 print 4, and a bad question", x, Due.BAD_INDEX, () -> x.ofPrint(4, 5));
@@ -595,27 +529,27 @@ public final class PromisesTest {
     }
 
     private static void promise17Lab() {
-        Grainclock x = threeGrains();
+        Grainclock x = Labs.threeGrains();
         x.print(0, -1);
         x.print(1, 0);
-        facts("17 at first", lab(x), 6, 3, 6, 2, 0, 0, 0, 0, 2, 2, 3712);
+        Due.facts("17 at first", Labs.lab(x), 6, 3, 6, 2, 0, 0, 0, 0, 2, 2, 3712);
         x.swap(0, 4);
         x.slip(7);
-        facts("17 swapped", lab(x), 6, 3, 6, 2, 7, 2, 2, 2, 2, 2, 3712);
+        Due.facts("17 swapped", Labs.lab(x), 6, 3, 6, 2, 7, 2, 2, 2, 2, 2, 3712);
         x.withdraw(1);
-        facts("17 withdrawn", lab(x), 6, 3, 5, 1, 7, 1, 1, 2, 2, 2, 3712);
+        Due.facts("17 withdrawn", Labs.lab(x), 6, 3, 5, 1, 7, 1, 1, 2, 2, 2, 3712);
         x.pace(0, 40);
         x.pace(1, 41);
         x.heat(0, 100);
         x.wash(1, 100);
-        facts("17 paces", new int[] {x.lab(3), x.lab(8), x.lab(9), x.lab(10)}, 0, 40, 41, 3712);
+        Due.facts("17 paces", new int[] {x.lab(3), x.lab(8), x.lab(9), x.lab(10)}, 0, 40, 41, 3712);
         Due.refused("17 question -1", x, Due.BAD_ARGUMENT, () -> x.lab(-1));
         Due.refused("17 question 11", x, Due.BAD_ARGUMENT, () -> x.lab(11));
-        Due.refused("17 question least", x, Due.BAD_ARGUMENT, () -> x.lab(LEAST));
+        Due.refused("17 question least", x, Due.BAD_ARGUMENT, () -> x.lab(Due.LEAST));
     }
 
     private static void promise18Text() {
-        Grainclock x = threeGrains();
+        Grainclock x = Labs.threeGrains();
         x.grain(1, 1, 0);
         Due.same("18 plain", x.text(0), "6-6");
         Due.same("18 without a run", x.text(3), "0-3000");
@@ -627,7 +561,7 @@ public final class PromisesTest {
         Due.same("18 touched alone", x.text(1), "3-3*");
         Due.same("18 grain -1", Due.outcomeOfText(() -> x.text(-1)), "throws.IndexOutOfBoundsException");
         Due.same("18 grain 4", Due.outcomeOfText(() -> x.text(4)), "throws.IndexOutOfBoundsException");
-        Grainclock y = halving();
+        Grainclock y = Labs.halving();
         y.grain(5, 0, 0);
         y.pass(3);
         y.wash(0, 100);
@@ -662,7 +596,7 @@ public final class PromisesTest {
     }
 
     private static void promise20Age() {
-        Grainclock x = halving();
+        Grainclock x = Labs.halving();
         x.slip(9);
         Due.same("20 EARLY", x.age(0, 128, 896, false), 3);
         Due.same("20 LATE", x.age(0, 128, 896, true), 3);
@@ -693,7 +627,7 @@ public final class PromisesTest {
     }
 
     private static void promise21Fewest() {
-        Grainclock x = threeGrains();
+        Grainclock x = Labs.threeGrains();
         Due.same("21 all agree", x.fewest(), 0);
         x.swap(0, 4);
         Due.same("21 two in quarrel", x.fewest(), 5);
@@ -708,7 +642,7 @@ public final class PromisesTest {
     }
 
     private static void promise21FewestOfSeveral() {
-        Grainclock x = halving();
+        Grainclock x = Labs.halving();
         for (int grain = 0; grain < 4; grain++) {
             x.grain(1024, 1024, grain == 3 ? 0 : 3);
         }
@@ -729,7 +663,7 @@ public final class PromisesTest {
     }
 
     private static void promise21FewestByBeds() {
-        Grainclock x = halving();
+        Grainclock x = Labs.halving();
         x.grain(1024, 1024, 5);
         x.pass(5);
         x.grain(64, 64, 2);
@@ -750,7 +684,7 @@ public final class PromisesTest {
     }
 
     private static void promise21FewestBySpans() {
-        Grainclock x = halving();
+        Grainclock x = Labs.halving();
         x.grain(16, 0, 4);
         x.grain(16, 0, 1);
         x.pass(2);
@@ -760,7 +694,7 @@ public final class PromisesTest {
         x.run(1, 0, 0, 0);
         Due.same("21 LATE of the upper one", x.text(0), "2-3");
         Due.same("21 is free", x.fewest(), 0);
-        Grainclock z = halving();
+        Grainclock z = Labs.halving();
         z.grain(64, 0, 3);
         z.pass(1);
         z.grain(16, 0, 1);
@@ -784,7 +718,7 @@ public final class PromisesTest {
     }
 
     private static void promise22Doubles() {
-        Grainclock x = halving();
+        Grainclock x = Labs.halving();
         x.grain(1024, 1024, 0);
         x.pass(3);
         x.run(0, 0, 0, 0);
@@ -807,7 +741,7 @@ public final class PromisesTest {
         x.run(0, 0, 0, 0);
         Due.same("22 by pairs", x.lab(5), 2);
         Due.same("22 runs of one label are not swapped", x.bestSwap(true), -1);
-        Grainclock y = halving();
+        Grainclock y = Labs.halving();
         y.grain(1024, 1024, 0);
         y.pass(3);
         y.run(0, 1, 0, 0);
@@ -828,7 +762,7 @@ public final class PromisesTest {
     }
 
     private static void promise22BestSwap() {
-        Grainclock x = threeGrains();
+        Grainclock x = Labs.threeGrains();
         Due.same("22 none, first", x.bestSwap(true), -1);
         Due.same("22 none, second", x.bestSwap(false), -1);
         x.swap(0, 4);
@@ -845,13 +779,13 @@ public final class PromisesTest {
         Due.same("22 doubles without it", x.lab(5), 1);
         Due.same("22 first of what stands", x.bestSwap(true), 3);
         Due.same("22 second of what stands", x.bestSwap(false), 4);
-        Grainclock y = threeGrains();
+        Grainclock y = Labs.threeGrains();
         y.swap(0, 4);
         y.withdraw(0);
         // To swap run 0 again would mend it, but it does not stand.
         Due.same("22 first, without run 0", y.bestSwap(true), 1);
         Due.same("22 second, without run 0", y.bestSwap(false), 5);
-        Grainclock z = threeGrains();
+        Grainclock z = Labs.threeGrains();
         z.swap(1, 4);
         z.withdraw(4);
         Due.same("22 first, without run 4", z.bestSwap(true), 0);
@@ -859,7 +793,7 @@ public final class PromisesTest {
     }
 
     private static void promise22BestSwapOfSeveral() {
-        Grainclock x = halving();
+        Grainclock x = Labs.halving();
         x.grain(1024, 1024, 0);
         x.run(0, 0, 0, 0);
         x.pass(1);
@@ -885,7 +819,7 @@ public final class PromisesTest {
     }
 
     private static void promise23Changed() {
-        Grainclock x = threeGrains();
+        Grainclock x = Labs.threeGrains();
         Due.same("23 by the same pace", x.changed(0, 2), 0);
         Due.same("23 by another pace", x.changed(0, 3), 3);
         x.withdraw(0);
@@ -896,7 +830,7 @@ public final class PromisesTest {
         x.pace(0, 3);
         Due.same("23 EARLY above LATE by the same", x.changed(0, 3), 2);
         Due.same("23 and back", x.changed(0, 2), 2);
-        Grainclock y = halving();
+        Grainclock y = Labs.halving();
         y.slip(9);
         y.grain(20, 20, 0);
         y.run(0, 0, 0, 0);
@@ -912,7 +846,7 @@ public final class PromisesTest {
     }
 
     private static void promise23ChangedWithSlip() {
-        Grainclock x = halving();
+        Grainclock x = Labs.halving();
         x.grain(40, 40, 0);
         x.pass(1);
         x.slip(9);
@@ -925,15 +859,15 @@ public final class PromisesTest {
         x.slip(5);
         x.pass(1);
         x.run(0, 1, 0, 0);
-        facts("23 counted", ofRun(x, 1), 0, 1, 10, 30, 5, 2, 3);
+        Due.facts("23 counted", Labs.ofRun(x, 1), 0, 1, 10, 30, 5, 2, 3);
         x.pace(1, 3);
         // 40 27 18 12 is 3; by a pace of 2 40 20 10 5 is 3, though without the slip it is 2.
-        facts("23 by a pace of 3", ofRun(x, 1), 0, 1, 10, 30, 5, 3, 5);
+        Due.facts("23 by a pace of 3", Labs.ofRun(x, 1), 0, 1, 10, 30, 5, 3, 5);
         Due.same("23 LATE with its slip", x.changed(1, 2), 0);
     }
 
     private static void promise24Wider() {
-        Grainclock x = threeGrains();
+        Grainclock x = Labs.threeGrains();
         Due.same("24 one of two alike", x.wider(0, 0), 0);
         Due.same("24 of another label", x.wider(1, 0), 0);
         x.swap(0, 4);
@@ -954,7 +888,7 @@ public final class PromisesTest {
     }
 
     private static void promise25IsSound() {
-        Grainclock x = threeGrains();
+        Grainclock x = Labs.threeGrains();
         Due.same("25 at first", x.isSound(), true);
         x.heat(0, 33);
         x.wash(0, 67);
@@ -977,57 +911,18 @@ public final class PromisesTest {
     }
 
     private static void promise26Digest() {
-        Grainclock x = threeGrains();
-        Due.same("26 at first", x.digest(), digestOf(x));
+        Grainclock x = Labs.threeGrains();
+        Due.same("26 at first", x.digest(), Labs.digestOf(x));
         Due.same("26 twice", x.digest(), x.digest());
         x.print(2, -1);
         x.print(5, 0);
         x.swap(0, 4);
         x.heat(1, 20);
-        Due.same("26 later", x.digest(), digestOf(x));
+        Due.same("26 later", x.digest(), Labs.digestOf(x));
         x.pass(20);
         x.withdraw(3);
         x.slip(4);
         x.pace(0, 5);
-        Due.same("26 last", x.digest(), digestOf(x));
-    }
-
-    private static long digestOf(Grainclock x) {
-        long d = 3643;
-        for (int v : lab(x)) {
-            d = d * 31 + v;
-        }
-        for (int grain = 0; grain < x.lab(1); grain++) {
-            for (int v : ofGrain(x, grain)) {
-                d = d * 31 + v;
-            }
-            d = d * 31 + x.span(grain, -1, 0);
-            d = d * 31 + x.span(grain, -1, 1);
-            d = d * 31 + x.narrowed(grain, false);
-            d = d * 31 + x.narrowed(grain, true);
-        }
-        for (int run = 0; !Due.outcome(asRun(x, run)).startsWith("throws"); run++) {
-            for (int v : ofRun(x, run)) {
-                d = d * 31 + v;
-            }
-        }
-        for (int print = 0; !Due.outcome(asPrint(x, print)).startsWith("throws"); print++) {
-            int[] all = ofPrint(x, print);
-            for (int what = 1; what < 5; what++) {
-                d = d * 31 + all[what];
-            }
-        }
-        d = d * 31 + x.fewest();
-        d = d * 31 + x.bestSwap(true);
-        d = d * 31 + x.bestSwap(false);
-        return d * 31 + (x.isSound() ? 1 : 0);
-    }
-
-    private static Due.Call asRun(Grainclock x, int run) {
-        return () -> x.ofRun(run, 0);
-    }
-
-    private static Due.Call asPrint(Grainclock x, int print) {
-        return () -> x.ofPrint(print, 0);
+        Due.same("26 last", x.digest(), Labs.digestOf(x));
     }
 }
