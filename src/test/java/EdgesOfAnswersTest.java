@@ -315,6 +315,7 @@ public final class EdgesOfAnswersTest {
         Due.test("15 no such GRAIN", EdgesOfAnswersTest::narrowedGrains);
         Due.test("15 the greatest EARLY of itself and all GRAINS in BEDS above its own", EdgesOfAnswersTest::fromAbove);
         Due.test("15 the smallest LATE of itself and all GRAINS in BEDS below its own", EdgesOfAnswersTest::fromBelow);
+        Due.test("15 all GRAINS, whatever their numbers", EdgesOfAnswersTest::narrowedByEach);
         Due.test("15 not of its own BED", EdgesOfAnswersTest::ownBed);
         Due.test("15 alone", EdgesOfAnswersTest::narrowedAlone);
         Due.test("15 LATE: 3000 at most", EdgesOfAnswersTest::narrowedAtMost);
@@ -368,6 +369,29 @@ public final class EdgesOfAnswersTest {
         Due.same("the smallest of several below", Labs.full().narrowed(1, true), 2);
         Due.same("the smallest of several below too", Labs.full().narrowed(5, true), 1);
         Due.same("none below", Labs.full().narrowed(0, true), 8);
+    }
+
+    private static void narrowedByEach() {
+        for (int dated = 0; dated < 8; dated++) {
+            Grainclock below = Labs.halving();
+            Grainclock above = Labs.halving();
+            for (int grain = 0; grain < 8; grain++) {
+                below.grain(64, 64, grain == dated ? 2 : 3);
+                above.grain(64, 64, grain == dated ? 3 : 2);
+            }
+            below.pass(4);
+            above.pass(4);
+            below.run(dated, 0, 0, 0);
+            above.run(dated, 1, 0, 0);
+            for (int grain = 0; grain < 8; grain++) {
+                String what = grain + " by " + dated;
+                boolean isIt = grain == dated;
+                Due.same("LATE from below, " + what, below.narrowed(grain, true), 4);
+                Due.same("no EARLY from below, " + what, below.narrowed(grain, false), isIt ? 4 : 0);
+                Due.same("EARLY from above, " + what, above.narrowed(grain, false), 4);
+                Due.same("no LATE from above, " + what, above.narrowed(grain, true), isIt ? 4 : 3000);
+            }
+        }
     }
 
     private static void ownBed() {

@@ -56,7 +56,13 @@ public final class EdgesOfRunsTest {
         x.pace(0, 2);
         Due.facts("0, behind other paces", Labs.ofRun(x, 0), 0, 0, 4, 12, 0, 2, 2);
         Due.facts("9, behind other paces", Labs.ofRun(x, 1), 0, 0, 4, 12, 9, 1, 3000);
-        Due.same("by the slip of then", x.changed(0, 2), 0);
+        x.withdraw(1);
+        x.slip(9);
+        Due.same("CHANGED by the slip of then, 0", x.changed(0, 3), 1);
+        x.run(0, 0, 0, 0);
+        x.withdraw(0);
+        x.slip(0);
+        Due.same("CHANGED by the slip of then, 9", x.changed(0, 3), 0);
     }
 
     // ---- promise 8
@@ -604,6 +610,7 @@ public final class EdgesOfRunsTest {
 
     private static void doubles() {
         Due.test("DOUBLES: EARLY of one is above LATE of the other one", EdgesOfRunsTest::doublesEdge);
+        Due.test("DOUBLES: SPANS that hold one another meet", EdgesOfRunsTest::doublesWithin);
         Due.test("DOUBLES: with one LABEL (of any CLOCKS)", EdgesOfRunsTest::doublesOfClocks);
         Due.test("DOUBLES: counted by pairs", EdgesOfRunsTest::doublesByPairs);
         Due.test("DOUBLES: as many as can be", EdgesOfRunsTest::mostDoubles);
@@ -640,6 +647,29 @@ public final class EdgesOfRunsTest {
         Grainclock z = twoAndThree();
         Due.same("2 to 2 and 3 to 3 do not meet", z.swap(1, 3), 1);
         Due.same("all meet", z.swap(2, 0), 0);
+    }
+
+    /** Runs of 2 to 2, 2 to 3 and 1 to 3000 years of one grain, in the order of these slips. */
+    private static Grainclock withSlips(int... slips) {
+        Grainclock x = Labs.halving();
+        x.grain(16, 16, 0);
+        x.pass(2);
+        for (int slip : slips) {
+            x.slip(slip);
+            x.run(0, 0, 0, 0);
+        }
+        return x;
+    }
+
+    private static void doublesWithin() {
+        Grainclock x = withSlips(0, 2, 9);
+        Due.facts("2 to 2", Labs.ofRun(x, 0), 0, 0, 4, 12, 0, 2, 2);
+        Due.facts("2 to 3", Labs.ofRun(x, 1), 0, 0, 4, 12, 2, 2, 3);
+        Due.facts("1 to 3000", Labs.ofRun(x, 2), 0, 0, 4, 12, 9, 1, 3000);
+        Due.same("wider and wider", x.lab(5), 0);
+        Due.same("narrower and narrower", withSlips(9, 2, 0).lab(5), 0);
+        Due.same("the widest between", withSlips(0, 9, 2).lab(5), 0);
+        Due.same("the same twice", withSlips(0, 0, 9, 9).lab(5), 0);
     }
 
     private static void doublesOfClocks() {
